@@ -187,7 +187,7 @@ public final class OrphanShelf {
             return NONE;
         }
         orders.gather(w, land, now);
-        long answer = orders.expectedOf(tape, n);
+        long answer = orders.expectedOn(tape, n);
         tape.clear();
         return answer;
     }
@@ -843,6 +843,7 @@ public final class OrphanShelf {
         private int kind;
         private int firstNumber;
         private int secondNumber;
+        private boolean asksFound;
 
         Reader(Tape tape) {
             this.tape = tape;
@@ -854,6 +855,12 @@ public final class OrphanShelf {
             place = 0;
             end = n;
             fault = 0;
+            asksFound = false;
+        }
+
+        /** Whether a condition of the TEXT asks who is FOUND. */
+        boolean asksFound() {
+            return asksFound;
         }
 
         int codeSize() {
@@ -1043,6 +1050,7 @@ public final class OrphanShelf {
             } else if (fact != NONE) {
                 place++;
                 emit(FACT, fact);
+                asksFound = asksFound || fact == Laws.FOUND_FACT;
             } else if (sign != '[') {
                 blame(STRANGE, place);
             } else if (enter()) {
@@ -1139,6 +1147,7 @@ public final class OrphanShelf {
         static final int WANTS = 7;
         static final int LETS = 8;
         static final int STRIKES = 9;
+        static final int FOUND_FACT = 5;
 
         private final Works works;
         private final Holdings holdings;
@@ -1156,6 +1165,7 @@ public final class OrphanShelf {
         private final int[] facts = new int[8];
         private final int[] results = new int[STRIKES];
         private int settled;
+        private boolean asksFound;
         private int size;
 
         Laws(Tape tape, Works works, Holdings holdings) {
@@ -1196,6 +1206,7 @@ public final class OrphanShelf {
             from[size] = first;
             to[size] = last;
             clauses[size] = read;
+            asksFound = asksFound || reader.asksFound();
             size++;
             return size - 1;
         }
@@ -1237,7 +1248,8 @@ public final class OrphanShelf {
             facts[2] = works.outDay(w, false) / YEAR_DAYS;
             facts[3] = works.outDay(w, true) / YEAR_DAYS;
             facts[4] = works.sharesOf(w);
-            facts[5] = holdings.foundShares(w, day, known);
+            // All LOOKS and LETTERS are gone through for this one.
+            facts[FOUND_FACT] = asksFound ? holdings.foundShares(w, day, known) : 0;
             facts[6] = works.outerOf(w) == NONE ? 0 : 1;
             facts[7] = day;
         }
@@ -1313,6 +1325,10 @@ public final class OrphanShelf {
 
         int termOf(int w, int land, int day, int known, boolean latest) {
             laws.weigh(w, land, day, known);
+            return weighedTerm(w, day, known, latest);
+        }
+
+        private int weighedTerm(int w, int day, int known, boolean latest) {
             int byDeaths = termByDeaths(w, day, known, latest);
             if (byDeaths == LIVING) {
                 return NONE;
@@ -1343,15 +1359,17 @@ public final class OrphanShelf {
             return last == NONE ? NONE : last + years * YEAR_DAYS;
         }
 
+        /** Whether a WORK is FREE; LAWS stay weighed for that case. */
         int freedom(int w, int land, int day, int known) {
-            int latest = termOf(w, land, day, known, true);
+            laws.weigh(w, land, day, known);
+            int latest = weighedTerm(w, day, known, true);
             if (latest == NONE) {
                 return SURELY_NOT;
             }
             if (latest < day) {
                 return SURELY;
             }
-            return termOf(w, land, day, known, false) < day ? MAYBE : SURELY_NOT;
+            return weighedTerm(w, day, known, false) < day ? MAYBE : SURELY_NOT;
         }
 
         /** Whether a search is not ENOUGH; lack() tells then what lacks first. */
@@ -1426,9 +1444,11 @@ public final class OrphanShelf {
         private final int[] cost = new int[SOURCES];
         private final int[] chance = new int[SOURCES * KINDS];
         private final int[] wanted = new int[MOST];
+        private final int[] ranked = new int[MOST];
         private final int[] row = new int[MOST];
         private final int[] best = new int[MOST];
         private int size;
+        private int wantedBits;
         private int kind;
         private long least;
 
@@ -1453,21 +1473,38 @@ public final class OrphanShelf {
             return true;
         }
 
-        /** Gathers the SOURCES that are still to be looked through for a WORK. */
+        /** Gathers the SOURCES that are still to be looked through for a WORK, the lowest eight of them. */
         void gather(int w, int land, int now) {
             int missing = rulings.sourcesToDo(w, land, now, now);
             kind = works.kindOf(w);
             size = 0;
+            wantedBits = 0;
             for (int s = 0; s < SOURCES && size < MOST; s++) {
                 if ((missing >> s & 1) != 0) {
                     wanted[size] = s;
+                    wantedBits |= 1 << s;
                     size++;
                 }
             }
         }
 
+        /** EXPECTED of the order on the tape; NOT_JUST_THOSE if it has others than those that were gathered. */
+        long expectedOn(Tape tape, int n) {
+            int bits = 0;
+            for (int i = 0; i < n && i < MOST; i++) {
+                int s = tape.at(i);
+                if (!isSource(s)) {
+                    return NOT_JUST_THOSE;
+                }
+                row[i] = s;
+                bits |= 1 << s;
+            }
+            return n == size && bits == wantedBits ? expectedOf(row) : NOT_JUST_THOSE;
+        }
+
         void findCheapest() {
-            least = Long.MAX_VALUE;
+            rank();
+            least = expectedOf(ranked) + 1;
             extend(0, 0, 0, CERTAIN);
         }
 
@@ -1479,47 +1516,49 @@ public final class OrphanShelf {
             return isBelow(i, size) ? best[i] : NONE;
         }
 
-        /** EXPECTED of the order on the tape; NOT_JUST_THOSE if it has others than those that were gathered. */
-        long expectedOf(Tape tape, int n) {
-            if (n != size) {
-                return NOT_JUST_THOSE;
-            }
-            int used = 0;
+        private long expectedOf(int[] order) {
             long sum = 0;
             long left = CERTAIN;
-            for (int i = 0; i < n; i++) {
-                int at = placeOf(tape.at(i));
-                if (at == NONE || (used >> at & 1) != 0) {
-                    return NOT_JUST_THOSE;
-                }
-                used |= 1 << at;
-                sum += cost[wanted[at]] * left;
-                left = leftBehind(wanted[at], left);
+            for (int i = 0; i < size && i < order.length; i++) {
+                sum += costOf(order[i]) * left;
+                left = leftBehind(order[i], left);
             }
             return sum;
         }
 
-        private int placeOf(int s) {
-            for (int i = 0; i < size; i++) {
-                if (wanted[i] == s) {
-                    return i;
-                }
-            }
-            return NONE;
+        private int costOf(int s) {
+            return s >= 0 && s < SOURCES ? cost[s] : 0;
+        }
+
+        private int chanceOf(int s) {
+            return s >= 0 && s < SOURCES && kind >= 0 && kind < KINDS ? chance[s * KINDS + kind] : 0;
         }
 
         private long leftBehind(int s, long left) {
             return left * (HUNDRED - chanceOf(s)) / HUNDRED;
         }
 
-        private int chanceOf(int s) {
-            return isSource(s) && isKind(kind) ? chance[s * KINDS + kind] : 0;
+        // By COST over chance: the cheapest order, if nothing were rounded.
+        private void rank() {
+            for (int i = 0; i < size; i++) {
+                int at = i;
+                for (; at > 0 && isBetter(wanted[i], ranked[at - 1]); at--) {
+                    ranked[at] = ranked[at - 1];
+                }
+                ranked[at] = wanted[i];
+            }
         }
 
-        // Rows come from the least on, so that of like ones the first stays. What is rounded down depends on the
-        // order, so that no two orders of the same SOURCES can be taken for one.
+        private boolean isBetter(int s, int other) {
+            if (chanceOf(s) == 0) {
+                return false;
+            }
+            return chanceOf(other) == 0 || costOf(s) * chanceOf(other) < costOf(other) * chanceOf(s);
+        }
+
+        // Rows come from the least on, so that of like ones the first stays.
         private void extend(int depth, int used, long sum, long left) {
-            if (sum >= least) {
+            if (sum + leastToAdd(used, left) >= least) {
                 return;
             }
             if (depth >= size) {
@@ -1528,20 +1567,35 @@ public final class OrphanShelf {
                 return;
             }
             for (int i = 0; i < size; i++) {
-                if ((used >> i & 1) == 0 && !hasTwin(i, used)) {
-                    int s = wanted[i];
+                int s = wanted[i];
+                if ((used >> s & 1) == 0 && !hasTwin(i, used)) {
                     row[depth] = s;
-                    extend(depth + 1, used | 1 << i, sum + cost[s] * left, leftBehind(s, left));
+                    extend(depth + 1, used | 1 << s, sum + costOf(s) * left, leftBehind(s, left));
                 }
             }
         }
 
+        // What the unused ones add by rank is the least without rounding. Rounding takes less than one from what
+        // is left with each SOURCE ahead, of which there are less than MOST.
+        private long leastToAdd(int used, long left) {
+            long sum = 0;
+            long rest = left;
+            for (int i = 0; i < size; i++) {
+                int s = ranked[i];
+                if ((used >> s & 1) == 0) {
+                    sum += costOf(s) * (rest - (MOST - 1));
+                    rest = leftBehind(s, rest);
+                }
+            }
+            return Math.max(sum, 0);
+        }
+
         // Two of like COST and chance can change places: the row with the lower one ahead is the lesser.
         private boolean hasTwin(int i, int used) {
-            for (int lower = 0; lower < i; lower++) {
-                boolean isUsed = (used >> lower & 1) != 0;
-                if (!isUsed && cost[wanted[lower]] == cost[wanted[i]]
-                        && chanceOf(wanted[lower]) == chanceOf(wanted[i])) {
+            int s = wanted[i];
+            for (int j = 0; j < i; j++) {
+                int lower = wanted[j];
+                if ((used >> lower & 1) == 0 && costOf(lower) == costOf(s) && chanceOf(lower) == chanceOf(s)) {
                     return true;
                 }
             }
@@ -1599,7 +1653,6 @@ public final class OrphanShelf {
             if (rulings.freedom(w, inLand, now, now) == Rulings.SURELY) {
                 return FREELY;
             }
-            laws.weigh(w, inLand, now, now);
             if ((laws.result(Laws.LETS) & uses) == 0) {
                 return NOT_LET;
             }
