@@ -1,3 +1,6 @@
+import java.util.Arrays;
+import java.util.Random;
+
 /** Promises 16 to 22, 28 and 29: searches that are enough, why not, who answers, the cheapest search. */
 public final class SearchesTest {
     private static final Checks CHECKS = new Checks("searches");
@@ -298,37 +301,66 @@ public final class SearchesTest {
         due("and the least row behind it", x.cheapest(0, 0, 1), 4);
     }
 
-    /** Without rounding both orders were alike; what is rounded down tells them apart. */
-    private static void cheapestWithRounding() {
-        OrphanShelf x = new OrphanShelf();
-        x.work(0, 0, 0, 0, 0, NONE);
-        Checks.law(x, 0, "s0;s1;s2;s3;s4;s5");
-        int[] cost = {10, 30, 70, 90, 130, 110};
-        int[] chance = {1, 3, 7, 9, 13, 11};
-        for (int s = 0; s < 6; s++) {
-            source(x, s, cost[s], chance[s]);
-        }
-        long best = Long.MAX_VALUE;
-        int[] order = new int[6];
-        for (int code = 0; code < 46656; code++) {
-            int[] row = new int[6];
-            int used = 0;
-            for (int i = 0, rest = code; i < 6; i++, rest %= (int) Math.pow(6, 6 - i)) {
-                row[i] = rest / (int) Math.pow(6, 5 - i);
-                used |= 1 << row[i];
-            }
+    /** The least EXPECTED of all orders of SOURCES from depth on, the least row first; best has its row. */
+    private static long brute(int[] cost, int[] chance, int[] row, int depth, long[] best, int[] bestRow) {
+        if (depth == row.length) {
             long sum = 0;
             long r = 1000000;
             for (int s : row) {
                 sum += cost[s] * r;
                 r = r * (100 - chance[s]) / 100;
             }
-            if (used == 63 && sum < best) {
-                best = sum;
-                order = row;
+            if (sum < best[0]) {
+                best[0] = sum;
+                System.arraycopy(row, 0, bestRow, 0, row.length);
+            }
+            return best[0];
+        }
+        for (int s = 0; s < row.length; s++) {
+            boolean used = false;
+            for (int i = 0; i < depth; i++) {
+                used = used || row[i] == s;
+            }
+            if (!used) {
+                row[depth] = s;
+                brute(cost, chance, row, depth + 1, best, bestRow);
             }
         }
-        cheapest(x, "rounded", best, order);
+        return best[0];
+    }
+
+    private static void allOrders(int[] cost, int[] chance) {
+        OrphanShelf x = new OrphanShelf();
+        x.work(0, 0, 0, 0, 0, NONE);
+        StringBuilder text = new StringBuilder("s0");
+        for (int s = 0; s < cost.length; s++) {
+            text.append(";s").append(s);
+            source(x, s, cost[s], chance[s]);
+        }
+        Checks.law(x, 0, text.toString());
+        int[] order = new int[cost.length];
+        long[] best = {Long.MAX_VALUE};
+        long expected = brute(cost, chance, new int[cost.length], 0, best, order);
+        cheapest(x, "all orders of " + Arrays.toString(cost) + Arrays.toString(chance), expected, order);
+    }
+
+    /** Where COSTS go with chances, all orders are alike but for what is rounded down. */
+    private static void cheapestWithRounding() {
+        allOrders(new int[] {10, 30, 70, 90, 130, 110}, new int[] {1, 3, 7, 9, 13, 11});
+        allOrders(new int[] {110, 130, 90, 70, 30, 10, 170, 190}, new int[] {11, 13, 9, 7, 3, 1, 17, 19});
+        allOrders(new int[] {9999, 10000, 9998, 10000}, new int[] {99, 99, 99, 98});
+        Random random = new Random(815);
+        for (int i = 0; i < 120; i++) {
+            int n = 1 + random.nextInt(8);
+            int[] cost = new int[n];
+            int[] chance = new int[n];
+            int mode = random.nextInt(5);
+            for (int s = 0; s < n; s++) {
+                chance[s] = mode == 0 ? 100 * random.nextInt(2) : random.nextInt(mode == 1 ? 3 : 101);
+                cost[s] = mode == 2 ? chance[s] * 7 : mode == 3 ? random.nextInt(3) : random.nextInt(10001);
+            }
+            allOrders(cost, chance);
+        }
     }
 
     private static void cheapestOfTheLowestEight() {
