@@ -157,7 +157,11 @@ public final class OrphanShelf {
 
     public int ask(int library, int w, int land, int use) {
         boolean fits = isBelow(library, LIBRARIES) && works.has(w) && isLand(land) && isBelow(use, USE_KINDS);
-        return fits && !leaves.isFull() ? leaves.give(library, w, land, use, now) : NONE;
+        if (!fits || leaves.isFull()) {
+            return NONE;
+        }
+        int verdict = leaves.verdict(w, land, 1 << use, now);
+        return verdict < 0 ? verdict : leaves.give(library, w, land, use, verdict, now);
     }
 
     public boolean uses(int k, int day, int n, int pence) {
@@ -432,14 +436,13 @@ public final class OrphanShelf {
         /** Who HOLDS on a DAY, as KNOWN, what is told to be an OWNER's. */
         int holderFor(int o, int day, int known) {
             int holder = o;
-            for (int step = 0; step < MOST && isPart(holder, day, known); step++) {
+            for (int step = 0; step < MOST && holder >= 0 && holder < size; step++) {
+                if (partOf[holder] == NONE || partFrom[holder] > day || partTold[holder] > known) {
+                    return holder;
+                }
                 holder = partOf[holder];
             }
             return holder;
-        }
-
-        private boolean isPart(int o, int day, int known) {
-            return o >= 0 && o < size && partOf[o] != NONE && partFrom[o] <= day && partTold[o] <= known;
         }
     }
 
@@ -514,7 +517,7 @@ public final class OrphanShelf {
         }
 
         int shareOwner(int w, int i) {
-            return has(w) && i >= 0 && i < shares[w] ? shareOwner[w * MOST_SHARES + i] : NONE;
+            return w >= 0 && w < size && i >= 0 && i < shares[w] ? shareOwner[w * MOST_SHARES + i] : NONE;
         }
 
         int sharePart(int w, int i) {
@@ -692,7 +695,7 @@ public final class OrphanShelf {
         }
 
         boolean hasCome(int o) {
-            return isBelow(o, came.length) && came[o] != NONE;
+            return o >= 0 && o < came.length && came[o] != NONE;
         }
 
         boolean addConsent(int o, int w, int now) {
@@ -942,8 +945,11 @@ public final class OrphanShelf {
         }
 
         private void exit(int wanted) {
-            pass(wanted);
+            if (sign() != wanted) {
+                blame(STRANGE, place);
+            }
             open--;
+            place++;
         }
 
         private int readLimited(int limit) {
@@ -1195,7 +1201,9 @@ public final class OrphanShelf {
             int read = 0;
             boolean more = true;
             while (more && read <= CLAUSES) {
-                readClause(read);
+                int codeStart = reader.codeSize();
+                reader.readClause(read);
+                keepClause(read, codeStart);
                 read++;
                 more = reader.goesOn();
             }
@@ -1212,9 +1220,7 @@ public final class OrphanShelf {
         }
 
         // What is kept of a TEXT with a FAULT is written over by the next LAW.
-        private void readClause(int number) {
-            int codeStart = reader.codeSize();
-            reader.readClause(number);
+        private void keepClause(int number, int codeStart) {
             if (isFull() || number >= CLAUSES) {
                 return;
             }
@@ -1662,11 +1668,10 @@ public final class OrphanShelf {
             return holdings.isUnheeded(w, now, now) ? NOT_AGREED : BY_LAW;
         }
 
-        /** Gives LEAVE, if it is due: its number, or the verdict that stands against it. */
-        int give(int toLibrary, int w, int inLand, int forUse, int now) {
-            int verdict = verdict(w, inLand, 1 << forUse, now);
-            if (verdict < 0 || isFull()) {
-                return Math.min(verdict, NONE);
+        /** Gives LEAVE by a verdict that is not against it: its number. */
+        int give(int toLibrary, int w, int inLand, int forUse, int verdict, int now) {
+            if (isFull()) {
+                return NONE;
             }
             boolean isFree = verdict == FREELY;
             laws.weigh(w, inLand, now, now);
