@@ -801,11 +801,11 @@ public final class OrphanShelf {
             return false;
         }
 
-        /** The hundredths of all SHARES of a WORK that an OWNER HOLDS: 0 for one who HOLDS none. */
-        int hundredthsOf(int o, int w, int day, int known) {
+        /** The hundredths of all SHARES of a WORK that an OWNER HOLDS today: 0 for one who HOLDS none. */
+        int hundredthsOf(int o, int w, int now) {
             int sum = 0;
             for (int i = 0; i < works.sharesOf(w); i++) {
-                if (holderOf(w, i, day, known) == o) {
+                if (holderOf(w, i, now, now) == o) {
                     sum += works.sharePart(w, i);
                 }
             }
@@ -1403,10 +1403,10 @@ public final class OrphanShelf {
             }
         }
 
-        /** The SOURCES, as bits, that are still to be looked through for a WORK. */
-        int sourcesToDo(int w, int land, int day, int known) {
-            laws.weigh(w, land, day, known);
-            return missingSources(w, day, known);
+        /** The SOURCES, as bits, that are still to be looked through for a WORK today. */
+        int sourcesToDo(int w, int land, int now) {
+            laws.weigh(w, land, now, now);
+            return missingSources(w, now, now);
         }
 
         private int missingSources(int w, int day, int known) {
@@ -1481,7 +1481,7 @@ public final class OrphanShelf {
 
         /** Gathers the SOURCES that are still to be looked through for a WORK, the lowest eight of them. */
         void gather(int w, int land, int now) {
-            int missing = rulings.sourcesToDo(w, land, now, now);
+            int missing = rulings.sourcesToDo(w, land, now);
             kind = works.kindOf(w);
             size = 0;
             wantedBits = 0;
@@ -1706,7 +1706,7 @@ public final class OrphanShelf {
         int endFor(int o, int now) {
             int ended = 0;
             for (int k = 0; k < size; k++) {
-                if (!free[k] && lastsOn(k, now) && holdings.hundredthsOf(o, work[k], now, now) > 0) {
+                if (!free[k] && lastsOn(k, now) && holdings.hundredthsOf(o, work[k], now) > 0) {
                     end[k] = now;
                     ended++;
                 }
@@ -1719,7 +1719,7 @@ public final class OrphanShelf {
                 return NONE;
             }
             laws.weigh(work[k], land[k], day[k], day[k]);
-            int part = holdings.hundredthsOf(o, work[k], now, now);
+            int part = holdings.hundredthsOf(o, work[k], now);
             return earnings[k] * laws.result(Laws.RATE) * part / (HUNDRED * HUNDRED);
         }
 

@@ -24,6 +24,7 @@ public final class LawsTest {
         theLastOfTheHighest();
         wrongNumbers();
         terms();
+        termsAsKnown();
         termsByHolders();
         freedom();
         drawnTexts();
@@ -376,6 +377,7 @@ public final class LawsTest {
         due("of another land", x.number(1, 0, 45, 5, 4), 1);
         Checks.law(x, 0, "x9.0;x4.0;x0.11;f5");
         due("higher ones, itself, no such clause", x.number(1, 0, 45, 5, 4), 5);
+        due("not in force, one's own", fee(shelf(), 1, "f8;x0.0;f9(k=1)"), 8);
         Checks.law(x, 0, 0, 9, "f6");
         due("the higher one counts", x.number(1, 0, 5, 5, 4), 6);
         x = shelf();
@@ -426,14 +428,19 @@ public final class LawsTest {
         due("what -1", x.number(0, 0, 0, 0, -1), NONE);
         due("what 9", x.number(0, 0, 0, 0, 9), NONE);
         due("what MAX", x.number(0, 0, 0, 0, Integer.MAX_VALUE), NONE);
+        due("free: no term", x.free(0, 0, 0, 0), 0);
+        Checks.law(x, 0, "u0");
+        due("term", x.term(0, 0, 0, 0, 0), 364);
         due("term: no such work", x.term(2, 0, 0, 0, 0), NONE);
+        due("term: land 4", x.term(0, 4, 0, 0, 0), NONE);
+        due("term: day -1", x.term(0, 0, -1, 0, 0), NONE);
+        due("term: known 100000", x.term(0, 0, 0, 100000, 0), NONE);
         due("term: what 2", x.term(0, 0, 0, 0, 2), NONE);
         due("term: what -1", x.term(0, 0, 0, 0, -1), NONE);
         due("free: no such work", x.free(2, 0, 0, 0), NONE);
         due("free: land 4", x.free(0, 4, 0, 0), NONE);
         due("free: day -1", x.free(0, 0, -1, 0), NONE);
         due("free: known 100000", x.free(0, 0, 0, 100000), NONE);
-        due("free: no term", x.free(0, 0, 0, 0), 0);
     }
 
     private static void terms() {
@@ -466,6 +473,21 @@ public final class LawsTest {
         x.died(1, 10, 20);
         due("the latest telling", x.term(w, 1, 9, 5001, 0), 1200 + 2 * 365);
         due("as it was known then", x.term(w, 1, 9, 5000, 0), 1300 + 2 * 365);
+    }
+
+    private static void termsAsKnown() {
+        OrphanShelf x = new OrphanShelf();
+        x.owner(false, 0);
+        int w = x.work(0, 0, 0, 10, 0, NONE);
+        x.share(w, 0, 10);
+        Checks.law(x, 0, "u1;u2(f=1)");
+        x.now(800);
+        x.look(w, 0, 300, 0);
+        due("found, as known", x.term(w, 0, 500, 800, 0), 730);
+        due("not known yet", x.term(w, 0, 500, 799, 0), 365);
+        due("not free, as known", x.free(w, 0, 500, 800), 0);
+        due("free, as known then", x.free(w, 0, 500, 799), 1);
+        due("maybe, as known then", x.free(w, 0, 370, 799), 2);
     }
 
     private static void termsByHolders() {

@@ -84,6 +84,13 @@ public final class SearchesTest {
         why(x, "known", 0, 10, 50);
         why(x, "not known yet", 0, 10, 49, 0, 0, 0);
         why(x, "not looked yet", 0, 9, 50, 0, 0, 0);
+        x.owner(false, 0);
+        x.share(0, 0, 5);
+        Checks.law(x, 0, "s1(f=1)");
+        x.now(60);
+        x.look(0, 3, 10, 0);
+        why(x, "a condition, as known", 0, 10, 60, 0, 0, 1);
+        why(x, "as known then", 0, 10, 59);
     }
 
     private static void lettersThatWait() {

@@ -168,6 +168,11 @@ public final class TellingTest {
         due("the fourth", x.share(w, 3, 1), true);
         due("a fifth", x.share(w, 4, 1), false);
         due("all of another", x.share(v, 0, 100), true);
+        int u = x.work(0, 0, 0, 0, 0, NONE);
+        for (int i = 0; i < 4; i++) {
+            due("one of four", x.share(u, i, 10), true);
+        }
+        due("a fifth, with room for it", x.share(u, 4, 10), false);
         due("shares", x.count(40 + w), 4);
         due("shares of the other", x.count(40 + v), 1);
         for (int i = 0; i < 4; i++) {
