@@ -231,7 +231,7 @@ public final class LeavesTest {
 
     private static void comingTwiceOnOneDay() {
         OrphanShelf x = shelf("p0");
-        x.share(0, 0, 10);
+        x.share(0, 0, 1);
         x.share(0, 1, 10);
         x.ask(0, 0, 0, 0);
         due("the first ends it", x.comes(0), 1);

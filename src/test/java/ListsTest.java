@@ -12,6 +12,7 @@ public final class ListsTest {
         wrongJoining();
         drawing();
         drawingAll();
+        fourHundredTimes();
         wrongOnes();
         wrongAsKnownNow();
         wrongAudits();
@@ -190,26 +191,39 @@ public final class ListsTest {
         due("drawn in 400 times", drawn, x.audit(100, 77, 0));
         due("the last of them", x.audit(100, 77, 9 + drawn) == NONE, false);
         due("and no more", x.audit(100, 77, 10 + drawn), NONE);
-        x = new OrphanShelf();
-        x.now(5);
-        x.work(0, 0, 0, 0, 0, NONE);
-        Checks.law(x, 0, "p0");
-        for (int i = 0; i < 64; i++) {
-            x.ask(0, 0, 0, 0);
-        }
-        due("a row that does not meet all in 400 times, of 64: it meets all", x.audit(64, 3, 0), 64);
-        for (int i = 64; i < 100; i++) {
-            x.ask(0, 0, 0, 0);
-        }
-        int met = 0;
+    }
+
+    /** How many of a hundred some times of drawing meet. */
+    private static int met(int seed, int times) {
         boolean[] seen = new boolean[100];
-        int next = 3;
-        for (int times = 0; times < 400; times++) {
+        int met = 0;
+        int next = seed;
+        for (int i = 0; i < times; i++) {
             next = (next * 25173 + 13849) % 65536;
             met += seen[next % 100] ? 0 : 1;
             seen[next % 100] = true;
         }
-        due("400 times and no more", x.audit(100, 3, 0), met);
+        return met;
+    }
+
+    private static void fourHundredTimes() {
+        OrphanShelf x = new OrphanShelf();
+        x.work(0, 0, 0, 0, 0, NONE);
+        Checks.law(x, 0, "p0");
+        for (int i = 0; i < 100; i++) {
+            x.ask(0, 0, 0, 0);
+        }
+        int last = 0;
+        while (met(last, 399) == met(last, 400)) {
+            last++;
+        }
+        due("drawn the 400th time", x.audit(100, last, 0), met(last, 400));
+        int tooLate = 0;
+        while (met(tooLate, 400) == met(tooLate, 401)) {
+            tooLate++;
+        }
+        due("not drawn the 401st time", x.audit(100, tooLate, 0), met(tooLate, 400));
+        due("at most", x.audit(100, tooLate, 3), 100 - met(tooLate, 400));
     }
 
     private static void wrongOnes() {
