@@ -1083,6 +1083,7 @@ public final class OrphanShelf {
         /** Runs the code of a condition; what has none holds, what divides by 0 does not. */
         boolean isMet(int from, int to, int[] facts) {
             height = 0;
+            // Jumps go forward only.
             for (int at = Math.max(from, 0); at < to && at < code.length; at++) {
                 int sign = code[at] & 255;
                 int value = code[at] >> 8;
@@ -1455,6 +1456,7 @@ public final class OrphanShelf {
         private final int[] best = new int[MOST];
         private int size;
         private int wantedBits;
+        private int roundedBits;
         private int kind;
         private long least;
 
@@ -1544,9 +1546,13 @@ public final class OrphanShelf {
             return left * (HUNDRED - chanceOf(s)) / HUNDRED;
         }
 
-        // By COST over chance: the cheapest order, if nothing were rounded.
+        // By COST over chance: the cheapest order, if nothing were rounded. What finds always or never rounds nothing.
         private void rank() {
+            roundedBits = 0;
             for (int i = 0; i < size; i++) {
+                if (chanceOf(wanted[i]) % HUNDRED != 0) {
+                    roundedBits |= 1 << wanted[i];
+                }
                 int at = i;
                 for (; at > 0 && isBetter(wanted[i], ranked[at - 1]); at--) {
                     ranked[at] = ranked[at - 1];
@@ -1581,15 +1587,16 @@ public final class OrphanShelf {
             }
         }
 
-        // What the unused ones add by rank is the least without rounding. Rounding takes less than one from what
-        // is left with each SOURCE ahead, of which there are less than MOST.
+        // What the unused ones add by rank is the least without rounding, and each that rounds takes less than one
+        // from what is left behind it.
         private long leastToAdd(int used, long left) {
+            int roundings = Integer.bitCount(roundedBits & ~used);
             long sum = 0;
             long rest = left;
             for (int i = 0; i < size; i++) {
                 int s = ranked[i];
                 if ((used >> s & 1) == 0) {
-                    sum += costOf(s) * (rest - (MOST - 1));
+                    sum += costOf(s) * (rest - roundings);
                     rest = leftBehind(s, rest);
                 }
             }
