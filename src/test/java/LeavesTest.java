@@ -322,6 +322,9 @@ public final class LeavesTest {
         due("one that is refused too", x.ask(0, 0, 0, 1), NONE);
         due("leaves", x.count(6), 100);
         due("shown all the same", x.shown(0), 1);
+        x.share(0, 0, 5);
+        due("all end", x.comes(0), 100);
+        due("the last of them", x.leave(99, 6), 100);
     }
 
     private static void threeHundredTellings() {
@@ -355,5 +358,9 @@ public final class LeavesTest {
         due("agreed", x.shown(0), 5);
         due("another land", x.shown(1), 0);
         due("nothing was given", x.count(6), 0);
+        for (int w = 6; w < 80; w++) {
+            x.work(1, 0, 0, 0, 0, NONE);
+        }
+        due("all that there can be", x.shown(0), 79);
     }
 }

@@ -9,6 +9,7 @@ public final class ListsTest {
         lists();
         joining();
         joiningOneWithItself();
+        joiningAll();
         wrongJoining();
         drawing();
         drawingAll();
@@ -116,6 +117,18 @@ public final class ListsTest {
         x.list(3, 2);
         pairs(x, 1, 2, 0, 0, 1, 1, 0, 2, 3);
         pairs(x, 2, 1, 0, 0, 1, 1, 0, 3, 2);
+    }
+
+    private static void joiningAll() {
+        OrphanShelf x = new OrphanShelf();
+        for (int w = 0; w < 80; w++) {
+            x.work(0, 0, 0, 0, 0, NONE);
+            x.list(w, w % 2);
+        }
+        due("on a list", x.count(11), 40);
+        due("the last pair", x.joined(0, 1, 0, 39, 0), 78);
+        due("the last pair's other one", x.joined(0, 1, 0, 39, 1), 79);
+        due("no more", x.joined(0, 1, 0, 40, 1), NONE);
     }
 
     private static void wrongJoining() {

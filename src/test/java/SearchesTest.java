@@ -356,6 +356,10 @@ public final class SearchesTest {
         allOrders(new int[] {10, 30, 70, 90, 130, 110}, new int[] {1, 3, 7, 9, 13, 11});
         allOrders(new int[] {110, 130, 90, 70, 30, 10, 170, 190}, new int[] {11, 13, 9, 7, 3, 1, 17, 19});
         allOrders(new int[] {9999, 10000, 9998, 10000}, new int[] {99, 99, 99, 98});
+        // The best of these are lost if an order is given up that rounding could still make the cheapest.
+        allOrders(new int[] {2099, 3900, 1499, 2501, 8200, 3200}, new int[] {21, 39, 15, 25, 82, 32});
+        allOrders(new int[] {1100, 700, 2500, 1150, 500}, new int[] {22, 14, 50, 23, 10});
+        allOrders(new int[] {4416, 1536, 2368, 5120, 896, 960}, new int[] {69, 24, 37, 80, 14, 15});
         Random random = new Random(815);
         for (int i = 0; i < 120; i++) {
             int n = 1 + random.nextInt(8);
