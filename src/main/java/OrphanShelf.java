@@ -39,7 +39,7 @@ public final class OrphanShelf {
         laws = new Laws(tape, works, holdings);
         rulings = new Rulings(owners, works, traces, holdings, laws);
         orders = new Orders(works, rulings);
-        leaves = new Leaves(traces, holdings, laws, rulings);
+        leaves = new Leaves(holdings, laws, rulings);
         audits = new Audits(leaves);
     }
 
@@ -1626,7 +1626,6 @@ public final class OrphanShelf {
         private static final int NOT_ENOUGH = -3;
         private static final int NOT_AGREED = -4;
 
-        private final Traces traces;
         private final Holdings holdings;
         private final Laws laws;
         private final Rulings rulings;
@@ -1642,8 +1641,7 @@ public final class OrphanShelf {
         private int size;
         private int tellings;
 
-        Leaves(Traces traces, Holdings holdings, Laws laws, Rulings rulings) {
-            this.traces = traces;
+        Leaves(Holdings holdings, Laws laws, Rulings rulings) {
             this.holdings = holdings;
             this.laws = laws;
             this.rulings = rulings;
