@@ -1,5 +1,20 @@
-/** What all tests share: answers that are due, and short ways to build a shelf. */
+import java.util.function.Supplier;
+
+/** The answers that are due, counted; and calls that are refused, behind which nothing may have changed. */
 final class Checks {
+    /** Builds a shelf up, with some 400 calls at most: a shelf is used for 512, and Sight needs the rest. */
+    interface Making {
+        void on(OrphanShelf x);
+    }
+
+    interface Asking {
+        long on(OrphanShelf x);
+    }
+
+    interface Telling {
+        boolean on(OrphanShelf x);
+    }
+
     private final String title;
     private int asked;
     private int wrong;
@@ -20,6 +35,42 @@ final class Checks {
         due(call, got ? 1 : 0, want ? 1 : 0);
     }
 
+    /** A call that is refused with false, and changes nothing. */
+    void isFalse(String call, Making making, Telling telling) {
+        isRefused(call, making, x -> telling.on(x) ? 1 : 0, 0);
+    }
+
+    /** A call that is refused with NONE, and changes nothing. */
+    void isNone(String call, Making making, Asking asking) {
+        isRefused(call, making, asking, OrphanShelf.NONE);
+    }
+
+    /** A call that answers so and changes nothing: all that can be asked later is as if it had not been made. */
+    void isRefused(String call, Making making, Asking asking, long want) {
+        isLike(call, making, asking, want, making);
+    }
+
+    /** A call that answers so, behind which a shelf looks like another one. */
+    void isLike(String call, Making making, Asking asking, long want, Making other) {
+        due(call, asking.on(made(making)), want);
+        String difference = Sight.difference(behind(making, asking), () -> made(other));
+        due(call + ": " + difference, difference.isEmpty(), true);
+    }
+
+    static OrphanShelf made(Making making) {
+        OrphanShelf x = new OrphanShelf();
+        making.on(x);
+        return x;
+    }
+
+    private static Supplier<OrphanShelf> behind(Making making, Asking asking) {
+        return () -> {
+            OrphanShelf x = made(making);
+            asking.on(x);
+            return x;
+        };
+    }
+
     int wrong() {
         return wrong;
     }
@@ -30,39 +81,5 @@ final class Checks {
         if (wrong != 0) {
             System.exit(1);
         }
-    }
-
-    /** Feeds a text (its last twenty bytes filled up with zeros). */
-    static void feed(OrphanShelf x, String text) {
-        for (int at = 0; at < text.length(); at += 20) {
-            x.feed(four(text, at), four(text, at + 4), four(text, at + 8), four(text, at + 12), four(text, at + 16));
-        }
-    }
-
-    private static int four(String text, int at) {
-        int value = 0;
-        for (int i = at; i < at + 4; i++) {
-            value = value << 8 | (i < text.length() ? text.charAt(i) & 255 : 0);
-        }
-        return value;
-    }
-
-    static int law(OrphanShelf x, int land, int from, int to, String text) {
-        feed(x, text);
-        return x.law(land, from, to, text.length());
-    }
-
-    /** A LAW that is in force for ever. */
-    static int law(OrphanShelf x, int land, String text) {
-        return law(x, land, 0, 99999, text);
-    }
-
-    /** Feeds SOURCES as bytes. */
-    static void feedBytes(OrphanShelf x, int... bytes) {
-        StringBuilder text = new StringBuilder();
-        for (int b : bytes) {
-            text.append((char) b);
-        }
-        feed(x, text.toString());
     }
 }

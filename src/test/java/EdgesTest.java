@@ -36,14 +36,15 @@ public final class EdgesTest {
     private static void anyArguments() throws Exception {
         List<Method> face = face();
         CHECKS.due("methods", face.size(), 35);
-        for (int seed = 0; seed < 300; seed++) {
+        for (int seed = 0; seed < 1000; seed++) {
             Random random = new Random(seed);
             OrphanShelf x = new OrphanShelf();
             int small = 1 + random.nextInt(EDGES.length);
-            for (int call = 0; call < 1500; call++) {
+            // With the feeding of some texts these are 512 calls at most: what later ones do is not promised.
+            for (int call = 0; call < 400; call++) {
                 Method method = face.get(random.nextInt(face.size()));
                 if (call % 40 == 0) {
-                    Checks.law(x, random.nextInt(4), new TextMaker(random, "ssaltufpppwex").law());
+                    Shelves.law(x, random.nextInt(4), new TextMaker(random, "ssaltufpppwex").law());
                 }
                 Object[] values = new Object[method.getParameterCount()];
                 for (int i = 0; i < values.length; i++) {

@@ -3,8 +3,9 @@ import java.util.Random;
 /** Runs of calls drawn by fixed seeds, on the class and on the Model: every answer must be the same. */
 public final class RandomRunsTest {
     private static final Checks CHECKS = new Checks("random runs");
-    private static final int RUNS = 1500;
-    private static final int CALLS = 512;
+    private static final int RUNS = 5000;
+    // An object is used for 512 calls, and a step makes eleven at most.
+    private static final int CALLS = 501;
     private static final int[] ODD = {-1, -2, 4, 8, 12, 40, 80, 100, 101, 256, 10001, 99999, 100000, 100001,
         65535, 65536, Integer.MIN_VALUE, Integer.MAX_VALUE};
 
@@ -17,6 +18,7 @@ public final class RandomRunsTest {
     private final boolean giving;
     private final boolean alike;
     private int day;
+    private int calls;
 
     private RandomRunsTest(int seed) {
         random = new Random(seed);
@@ -49,19 +51,20 @@ public final class RandomRunsTest {
     public static void main(String[] args) {
         for (int seed = 0; seed < RUNS && CHECKS.wrong() < 20; seed++) {
             RandomRunsTest run = new RandomRunsTest(seed);
-            for (int i = 0; i < CALLS && CHECKS.wrong() < 20; i++) {
-                run.step("seed " + seed + " call " + i + " ");
+            for (int step = 0; run.calls < CALLS && CHECKS.wrong() < 20; step++) {
+                run.step("seed " + seed + " step " + step + " ");
             }
         }
         CHECKS.end();
     }
 
     private void due(String call, long got, long want) {
+        calls++;
         CHECKS.due(call, got, want);
     }
 
     private void due(String call, boolean got, boolean want) {
-        CHECKS.due(call, got, want);
+        due(call, got ? 1 : 0, want ? 1 : 0);
     }
 
     private int below(int n) {
@@ -277,7 +280,7 @@ public final class RandomRunsTest {
             case 7: {
                 int s = some(12);
                 int d = pastDay();
-                int i = below(6) == 0 ? below(5) == 0 ? someOwner() : x.holds(w, below(4), 0, 0) : -1;
+                int i = below(6) == 0 ? below(5) == 0 ? someOwner() : m.holds(w, below(4), 0, 0) : -1;
                 due(at + "look", x.look(w, s, d, i), m.look(w, s, d, i));
                 break;
             }
