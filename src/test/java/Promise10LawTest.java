@@ -28,6 +28,7 @@ public final class Promise10LawTest {
         openTillItsPieceEnds();
         theFirstFromTheLeft();
         noLawBehindAFault();
+        manyFaults();
         drawnTexts();
         P.end();
     }
@@ -452,6 +453,20 @@ public final class Promise10LawTest {
         P.due("the next one is LAW 0", Shelves.law(x, 0, "f6"), 0);
         P.due("without a condition", x.number(0, 0, 5, 5, 4), 6);
         P.due("one CLAUSE", x.count(20), 1);
+    }
+
+    /** What was read of TEXTS with FAULTS is gone: however long they were, and whatever was open in them. */
+    private static void manyFaults() {
+        OrphanShelf x = new OrphanShelf();
+        Shelves.works(x, 1);
+        String text = padded("f7(!(!([0", "]>1", 200);
+        for (int i = 0; i < 40; i++) {
+            P.due("a long FAULT", Shelves.law(x, 0, text), -1200);
+        }
+        P.due("a seventh that is open", Shelves.law(x, 0, "f5(!(!([[k]]=0)))"), -5008);
+        P.due("a LAW with six that are open", Shelves.law(x, 0, "f5(!(!([k]=0)));f6(!(!([k]=1)))"), 0);
+        P.due("its conditions", x.number(0, 0, 5, 5, 4), 5);
+        P.due("CLAUSES", x.count(20), 2);
     }
 
     private static void drawnTexts() {

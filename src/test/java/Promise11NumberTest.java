@@ -157,6 +157,13 @@ public final class Promise11NumberTest {
         P.due("all are struck: p", x.number(1, 0, 60, 5, 8), 0);
         Shelves.law(x, 0, 60, 99999, "f9");
         P.due("a higher LAW is not", x.number(1, 0, 60, 5, 4), 9);
+        OrphanShelf y = made();
+        Shelves.law(y, 0, 10, 20, "f1;f2");
+        Shelves.law(y, 0, 15, 30, "x0.1");
+        P.due("the DAY ahead of the x", y.number(1, 0, 14, 14, 4), 2);
+        P.due("in FORCE on that DAY, not on t", y.number(1, 0, 15, 5, 4), 1);
+        P.due("nor on this t", y.number(1, 0, 20, 99999, 4), 1);
+        P.due("the x is in FORCE on t alone", y.number(1, 0, 14, 15, 4), 2);
     }
 
     private static void strikingWhatIsNotThere() {

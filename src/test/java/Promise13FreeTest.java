@@ -70,6 +70,19 @@ public final class Promise13FreeTest {
         P.due("free, as KNOWN the DAY ahead", x.free(0, 0, 500, 799), 1);
         P.due("maybe, as KNOWN then", x.free(0, 0, 370, 799), 2);
         P.due("not maybe, as KNOWN now", x.free(0, 0, 370, 800), 0);
+        Shelves.law(x, 1, "t1");
+        x.died(0, 10, 20);
+        x.now(900);
+        x.died(0, 15, 400);
+        P.due("the death is not KNOWN yet", x.free(0, 1, 99999, 799), 0);
+        P.due("nor ahead of that", x.free(0, 1, 500, 0), 0);
+        P.due("KNOWN: surely", x.free(0, 1, 386, 800), 1);
+        P.due("KNOWN: maybe", x.free(0, 1, 385, 800), 2);
+        P.due("KNOWN: maybe still", x.free(0, 1, 376, 899), 2);
+        P.due("KNOWN: surely not", x.free(0, 1, 375, 899), 0);
+        P.due("the latest telling: maybe", x.free(0, 1, 386, 900), 2);
+        P.due("the latest telling: surely not", x.free(0, 1, 380, 900), 0);
+        P.due("the latest telling: surely", x.free(0, 1, 766, 900), 1);
     }
 
     private static void noSuchOnes() {

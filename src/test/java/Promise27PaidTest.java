@@ -30,15 +30,21 @@ public final class Promise27PaidTest {
         return Checks.made(x -> build(x, law));
     }
 
+    /** All that is earned by a LEAVE that was given today, and PERSON 0 comes, who has so many hundredths. */
+    private static OrphanShelf earned(String law, int hundredths, int n, int pence) {
+        OrphanShelf x = made(law);
+        x.share(0, 0, hundredths);
+        x.ask(0, 0, 0, 0);
+        x.uses(0, 100, n, pence);
+        x.comes(0);
+        return x;
+    }
+
     private static void roundedDown() {
         int[][] rows = {{1, 100, 99, 0}, {1, 100, 100, 1}, {101, 100, 99, 99}, {9999, 1, 1, 0}, {10000, 1, 1, 1},
             {19999, 1, 1, 1}, {20000, 1, 1, 2}, {101, 33, 50, 16}, {3, 50, 67, 1}};
         for (int[] row : rows) {
-            OrphanShelf x = made("p0;w" + row[1]);
-            x.share(0, 0, row[2]);
-            x.ask(0, 0, 0, 0);
-            x.uses(0, 100, row[0], 1);
-            x.comes(0);
+            OrphanShelf x = earned("p0;w" + row[1], row[2], row[0], 1);
             P.due(row[0] + " times " + row[1] + " times " + row[2], x.paid(0, 0), row[3]);
         }
         OrphanShelf x = made("p0;w50");
@@ -92,27 +98,17 @@ public final class Promise27PaidTest {
     }
 
     private static void nothingToPay() {
-        OrphanShelf x = made("p0");
-        x.share(0, 0, 50);
-        x.ask(0, 0, 0, 0);
-        x.uses(0, 100, 100, 10);
-        x.comes(0);
-        x.comes(1);
-        P.due("no w", x.paid(0, 0), 0);
-        OrphanShelf y = Checks.made(Promise27PaidTest::given);
-        y.comes(2);
-        P.due("holds no SHARE", y.paid(2, 0), 0);
-        OrphanShelf z = made("p0;w50");
-        z.share(0, 0, 50);
-        z.ask(0, 0, 0, 0);
-        z.comes(0);
-        P.due("no USES", z.paid(0, 0), 0);
-        OrphanShelf zero = made("p0;w50");
-        zero.share(0, 0, 50);
-        zero.ask(0, 0, 0, 0);
-        zero.uses(0, 100, 100, 0);
-        zero.comes(0);
-        P.due("no earnings", zero.paid(0, 0), 0);
+        P.due("no w", earned("p0", 50, 100, 10).paid(0, 0), 0);
+        P.due("w is 0", earned("p0;w0", 50, 100, 10).paid(0, 0), 0);
+        P.due("no earnings", earned("p0;w50", 50, 100, 0).paid(0, 0), 0);
+        OrphanShelf x = Checks.made(Promise27PaidTest::given);
+        x.comes(2);
+        P.due("holds no SHARE", x.paid(2, 0), 0);
+        OrphanShelf y = made("p0;w50");
+        y.share(0, 0, 50);
+        y.ask(0, 0, 0, 0);
+        y.comes(0);
+        P.due("no USES", y.paid(0, 0), 0);
     }
 
     private static void allSharesThatOneHoldsToday() {

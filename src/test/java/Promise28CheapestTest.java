@@ -227,6 +227,7 @@ public final class Promise28CheapestTest {
         allOrders(new int[] {2099, 3900, 1499, 2501, 8200, 3200}, new int[] {21, 39, 15, 25, 82, 32});
         allOrders(new int[] {1100, 700, 2500, 1150, 500}, new int[] {22, 14, 50, 23, 10});
         allOrders(new int[] {4416, 1536, 2368, 5120, 896, 960}, new int[] {69, 24, 37, 80, 14, 15});
+        allOrders(new int[] {10000, 100, 100, 100, 100}, new int[] {100, 1, 1, 1, 1});
     }
 
     private static void drawnCosts() {

@@ -1,4 +1,4 @@
-/** Promise 32: joined. WORKS on one list by numbers, each with the first LIKE one on the other that is with none yet. */
+/** Promise 32: joined. WORKS on one list by numbers, each with the first LIKE one on the other, not with one yet. */
 public final class Promise32JoinedTest {
     private static final Checks P = new Checks("promise 32, joined");
     private static final int NONE = OrphanShelf.NONE;

@@ -1,3 +1,5 @@
+import java.util.Arrays;
+
 /** Promise 33: audit. N of the LEAVES that are not FREE are drawn by a seed; WRONG ones, and BOUNDS. */
 public final class Promise33AuditTest {
     private static final Checks P = new Checks("promise 33, audit");
@@ -54,7 +56,7 @@ public final class Promise33AuditTest {
                 size++;
             }
         }
-        return java.util.Arrays.copyOf(row, size);
+        return Arrays.copyOf(row, size);
     }
 
     private static void drawnBySeeds() {
@@ -182,7 +184,8 @@ public final class Promise33AuditTest {
         P.due("for another WORK, or another one", z.audit(3, 5, 1), 2);
     }
 
-    private static void whoHeldItThen() {
+    /** A LEAVE of DAY 10 for a WORK of FIRM 0, told on DAY 30 to be part of FIRM 1, who came, from a DAY on. */
+    private static OrphanShelf partFrom(int day) {
         OrphanShelf x = new OrphanShelf();
         Shelves.firms(x, 2);
         x.now(10);
@@ -193,21 +196,16 @@ public final class Promise33AuditTest {
         x.ask(0, 0, 0, 0);
         P.due("who held it was not found", x.audit(1, 0, 1), 0);
         x.now(30);
-        x.merge(0, 1, 11);
-        P.due("who holds it since the DAY behind", x.audit(1, 0, 1), 0);
-        OrphanShelf y = new OrphanShelf();
-        Shelves.firms(y, 2);
-        y.now(10);
-        Shelves.works(y, 1);
-        y.share(0, 0, 50);
-        Shelves.law(y, 0, "p0");
-        y.comes(1);
-        y.ask(0, 0, 0, 0);
-        y.now(30);
-        y.merge(0, 1, 10);
-        P.due("who held it that DAY, as KNOWN now", y.audit(1, 0, 1), 1);
-        y.agree(1, 0);
-        P.due("agreed too late", y.audit(1, 0, 1), 1);
+        x.merge(0, 1, day);
+        return x;
+    }
+
+    private static void whoHeldItThen() {
+        P.due("who holds it since the DAY behind", partFrom(11).audit(1, 0, 1), 0);
+        OrphanShelf x = partFrom(10);
+        P.due("who held it that DAY, as KNOWN now", x.audit(1, 0, 1), 1);
+        x.agree(1, 0);
+        P.due("agreed too late", x.audit(1, 0, 1), 1);
     }
 
     private static void bounds() {

@@ -191,13 +191,13 @@ final class Sight {
     }
 
     private void tellOfOwners() {
-        ask("owner", x -> x.owner(false, 3));
+        ask("owner", x -> x.owner(true, 3));
         tell("died", x -> x.died(0, 0, 0));
         tell("the last one died", x -> x.died(owners - 1, 0, now));
-        tell("merge", x -> x.merge(0, 1, now));
-        tell("merge 1", x -> x.merge(1, 2, now));
-        tell("merge back", x -> x.merge(2, 0, now));
-        tell("merge the last one", x -> x.merge(owners - 1, 0, 0));
+        for (int o : some(owners)) {
+            tell("merge " + o + " with the last one", x -> x.merge(o, owners - 1, now));
+            tell("merge " + o + " with the new one", x -> x.merge(o, owners, now));
+        }
         ask("letter", x -> x.letter(0, now));
         tell("answer the first", x -> x.answer(0));
         tell("answer the last", x -> x.answer(letters - 1));
