@@ -1443,6 +1443,10 @@ public final class OrphanShelf {
         static final int SOURCES = 12;
         static final int MOST_COST = 10000;
         private static final int MOST = 8;
+        private static final int SETS = 1 << MOST;
+        // Orders of one set leave different rests only by rounding: the first three SOURCES round nothing, as CERTAIN
+        // is 100 to the third, the fourth is the first that does, and each of the next three takes less than one.
+        private static final int RESTS = 4;
         private static final int NOT_JUST_THOSE = -2;
         private static final long CERTAIN = 1000000;
 
@@ -1451,12 +1455,13 @@ public final class OrphanShelf {
         private final int[] cost = new int[SOURCES];
         private final int[] chance = new int[SOURCES * KINDS];
         private final int[] wanted = new int[MOST];
-        private final int[] ranked = new int[MOST];
         private final int[] row = new int[MOST];
-        private final int[] best = new int[MOST];
+        // By sets of the wanted ones that are used: the rests that were met behind them, and what the others add then.
+        private final int[] rests = new int[SETS];
+        private final long[] rest = new long[SETS * RESTS];
+        private final long[] added = new long[SETS * RESTS];
         private int size;
         private int wantedBits;
-        private int roundedBits;
         private int kind;
         private long least;
 
@@ -1507,13 +1512,31 @@ public final class OrphanShelf {
                 row[i] = s;
                 bits |= 1 << s;
             }
-            return n == size && bits == wantedBits ? expectedOf(row) : NOT_JUST_THOSE;
+            return n == size && bits == wantedBits ? expectedOfRow() : NOT_JUST_THOSE;
         }
 
+        private long expectedOfRow() {
+            long sum = 0;
+            long left = CERTAIN;
+            for (int i = 0; i < size; i++) {
+                sum += costOf(row[i]) * left;
+                left = leftBehind(row[i], left);
+            }
+            return sum;
+        }
+
+        /** Finds THE ORDER of those that were gathered; leastExpected() and cheapestAt() tell it then. */
         void findCheapest() {
-            rank();
-            least = expectedOf(ranked) + 1;
-            extend(0, 0, 0, CERTAIN);
+            Arrays.fill(rests, 0);
+            least = leastAdded(0, CERTAIN);
+            int used = 0;
+            long left = CERTAIN;
+            for (int at = 0; at < size; at++) {
+                int next = firstOfLeast(used, left);
+                row[at] = wanted[next];
+                used |= 1 << next;
+                left = leftBehind(row[at], left);
+            }
         }
 
         long leastExpected() {
@@ -1521,17 +1544,7 @@ public final class OrphanShelf {
         }
 
         int cheapestAt(int i) {
-            return isBelow(i, size) ? best[i] : NONE;
-        }
-
-        private long expectedOf(int[] order) {
-            long sum = 0;
-            long left = CERTAIN;
-            for (int i = 0; i < size && i < order.length; i++) {
-                sum += costOf(order[i]) * left;
-                left = leftBehind(order[i], left);
-            }
-            return sum;
+            return isBelow(i, size) ? row[i] : NONE;
         }
 
         private int costOf(int s) {
@@ -1546,73 +1559,57 @@ public final class OrphanShelf {
             return left * (HUNDRED - chanceOf(s)) / HUNDRED;
         }
 
-        // By COST over chance: the cheapest order, if nothing were rounded. What finds always or never rounds nothing.
-        private void rank() {
-            roundedBits = 0;
-            for (int i = 0; i < size; i++) {
-                if (chanceOf(wanted[i]) % HUNDRED != 0) {
-                    roundedBits |= 1 << wanted[i];
+        // The lowest one: of like orders the least row is wanted.
+        private int firstOfLeast(int used, long left) {
+            long leastOfAll = leastAdded(used, left);
+            for (int next = 0; next < size; next++) {
+                if ((used >> next & 1) == 0 && addedWith(next, used, left) == leastOfAll) {
+                    return next;
                 }
-                int at = i;
-                for (; at > 0 && isBetter(wanted[i], ranked[at - 1]); at--) {
-                    ranked[at] = ranked[at - 1];
-                }
-                ranked[at] = wanted[i];
             }
+            return 0;
         }
 
-        private boolean isBetter(int s, int other) {
-            if (chanceOf(s) == 0) {
-                return false;
+        // Each level uses one more of the eight at most, and none is left on the last.
+        private long leastAdded(int used, long left) {
+            if (used < 0 || used + 1 >= 1 << size) {
+                return 0;
             }
-            return chanceOf(other) == 0 || costOf(s) * chanceOf(other) < costOf(other) * chanceOf(s);
-        }
-
-        // Rows come from the least on, so that of like ones the first stays.
-        private void extend(int depth, int used, long sum, long left) {
-            if (sum + leastToAdd(used, left) >= least) {
-                return;
+            int known = knownAt(used, left);
+            if (known != NONE) {
+                return added[known];
             }
-            if (depth >= size) {
-                least = sum;
-                System.arraycopy(row, 0, best, 0, size);
-                return;
-            }
-            for (int i = 0; i < size; i++) {
-                int s = wanted[i];
-                if ((used >> s & 1) == 0 && !hasTwin(i, used)) {
-                    row[depth] = s;
-                    extend(depth + 1, used | 1 << s, sum + costOf(s) * left, leftBehind(s, left));
+            long leastOfAll = NONE;
+            for (int next = 0; next < size; next++) {
+                if ((used >> next & 1) == 0) {
+                    long sum = addedWith(next, used, left);
+                    leastOfAll = leastOfAll == NONE ? sum : Math.min(leastOfAll, sum);
                 }
             }
+            keep(used, left, leastOfAll);
+            return leastOfAll;
         }
 
-        // What the unused ones add by rank is the least without rounding, and each that rounds takes less than one
-        // from what is left behind it.
-        private long leastToAdd(int used, long left) {
-            int roundings = Integer.bitCount(roundedBits & ~used);
-            long sum = 0;
-            long rest = left;
-            for (int i = 0; i < size; i++) {
-                int s = ranked[i];
-                if ((used >> s & 1) == 0) {
-                    sum += costOf(s) * (rest - roundings);
-                    rest = leftBehind(s, rest);
-                }
-            }
-            return Math.max(sum, 0);
+        private long addedWith(int next, int used, long left) {
+            int s = wanted[next];
+            return costOf(s) * left + leastAdded(used | 1 << next, leftBehind(s, left));
         }
 
-        // Two of like COST and chance can change places: the row with the lower one ahead is the lesser.
-        private boolean hasTwin(int i, int used) {
-            int s = wanted[i];
-            for (int j = 0; j < i; j++) {
-                int lower = wanted[j];
-                if ((used >> lower & 1) == 0 && costOf(lower) == costOf(s) && chanceOf(lower) == chanceOf(s)) {
-                    return true;
+        private int knownAt(int used, long left) {
+            for (int i = 0; i < rests[used]; i++) {
+                if (rest[used * RESTS + i] == left) {
+                    return used * RESTS + i;
                 }
             }
-            return false;
+            return NONE;
+        }
+
+        private void keep(int used, long left, long sum) {
+            if (rests[used] < RESTS) {
+                rest[used * RESTS + rests[used]] = left;
+                added[used * RESTS + rests[used]] = sum;
+                rests[used]++;
+            }
         }
     }
 

@@ -70,7 +70,7 @@ public final class EdgesTest {
         long before = made();
         OrphanShelf x = new OrphanShelf();
         long object = made() - before;
-        CHECKS.due("bytes of an object: " + object, object < 64000, true);
+        CHECKS.due("bytes of an object: " + object, object < 72000, true);
         fill(new OrphanShelf());
         before = made();
         fill(x);
