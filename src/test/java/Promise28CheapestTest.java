@@ -243,6 +243,17 @@ public final class Promise28CheapestTest {
             }
             allOrders(cost, chance);
         }
+        // Eight whose COSTS go with their chances: what is rounded down alone decides.
+        for (int i = 0; i < 60; i++) {
+            int[] cost = new int[8];
+            int[] chance = new int[8];
+            int times = 1 + random.nextInt(100);
+            for (int s = 0; s < 8; s++) {
+                chance[s] = 1 + random.nextInt(i % 2 == 0 ? 99 : 9);
+                cost[s] = chance[s] * times;
+            }
+            allOrders(cost, chance);
+        }
     }
 
     private static void two(OrphanShelf x) {
