@@ -590,7 +590,7 @@ public final class OrphanShelf {
             int pairs = 0;
             for (int w = 0; w < size; w++) {
                 int partner = isListed(w, one) ? partnerOf(w, other, bits) : NONE;
-                if (partner == NONE) {
+                if (!has(partner)) {
                     continue;
                 }
                 if (pairs == i) {
@@ -1083,7 +1083,6 @@ public final class OrphanShelf {
         /** Runs the code of a condition; what has none holds, what divides by 0 does not. */
         boolean isMet(int from, int to, int[] facts) {
             height = 0;
-            // Jumps go forward only.
             for (int at = Math.max(from, 0); at < to && at < code.length; at++) {
                 int sign = code[at] & 255;
                 int value = code[at] >> 8;
@@ -1095,7 +1094,8 @@ public final class OrphanShelf {
                     int top = pop();
                     if ((top != 0) == (sign == '|')) {
                         push(top);
-                        at += value;
+                        // Forward only, as each jump is: so the loop ends.
+                        at += Math.max(value, 0);
                     }
                 } else if (sign == '!') {
                     push(1 - pop());

@@ -18,6 +18,7 @@ public final class Promise11NumberTest {
         lettersOfTheWork();
         years();
         foundByTheDay();
+        foundWithOtherLetters();
         fromTheLeftOn();
         withThirtyTwoBits();
         dividedByZero();
@@ -257,6 +258,24 @@ public final class Promise11NumberTest {
         x.letter(2, 30);
         x.answer(0);
         P.due("both SHARES are one's", x.number(0, 0, 30, 30, 4), 2);
+    }
+
+    private static void foundWithOtherLetters() {
+        String[] conditions = {"f=1&o=2", "o=2&f=1", "f+o=3", "o-f=1", "k=9|f=1|l=9", "!f=0&d=20", "[f*o]=2"};
+        for (String condition : conditions) {
+            OrphanShelf x = new OrphanShelf();
+            x.now(20);
+            Shelves.firms(x, 2);
+            Shelves.works(x, 1);
+            x.share(0, 0, 10);
+            x.share(0, 1, 10);
+            Shelves.law(x, 0, "f7(" + condition + ");w9(k=0)");
+            P.due(condition + ": nobody is found", x.number(0, 0, 20, 20, 4), 0);
+            x.look(0, 0, 20, 1);
+            P.due(condition + ": one is", x.number(0, 0, 20, 20, 4), 7);
+            Shelves.law(x, 0, "e5");
+            P.due(condition + ": behind a LAW that does not ask", x.number(0, 0, 20, 20, 4), 7);
+        }
     }
 
     private static void holds(String condition, boolean want) {

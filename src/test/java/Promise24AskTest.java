@@ -15,7 +15,9 @@ public final class Promise24AskTest {
         theFirstOfThese();
         freeSurely();
         asKnownToday();
+        freeByWhatIsToldToday();
         feesAndEnds();
+        feesAndEndsOfToday();
         aHundred();
         P.end();
     }
@@ -196,6 +198,24 @@ public final class Promise24AskTest {
         P.due("looked through for that", x.ask(0, 0, 0, 0), 1);
     }
 
+    private static void freeByWhatIsToldToday() {
+        OrphanShelf x = shelf("t0");
+        x.share(0, 0, 10);
+        P.due("lives still", x.ask(0, 0, 0, 0), -2);
+        x.died(0, 98, 99);
+        P.due("a death that is told today", x.ask(0, 0, 0, 0), 0);
+        P.due("FREE", x.leave(0, 7), 1);
+        x.died(0, 98, 100);
+        P.due("told anew today", x.ask(0, 0, 0, 0), -2);
+        OrphanShelf y = shelf("p0;u0(f=1)");
+        y.share(0, 0, 10);
+        y.ask(0, 0, 0, 0);
+        P.due("nobody is found", y.leave(0, 7), 0);
+        y.comes(0);
+        P.due("one who came today", y.ask(0, 0, 0, 0), 1);
+        P.due("FREE by that", y.leave(1, 7), 1);
+    }
+
     private static void feesAndEnds() {
         OrphanShelf x = shelf("p0;f999999;e999999");
         x.ask(0, 0, 0, 0);
@@ -214,6 +234,32 @@ public final class Promise24AskTest {
         y.ask(0, 0, 0, 0);
         P.due("without a number: no fee", y.leave(0, 5), 0);
         P.due("without a number: no end", y.leave(0, 6), NONE);
+    }
+
+    private static void feesAndEndsOfToday() {
+        OrphanShelf x = shelf("p0;f5(f=0);f9(f=1);e2(f=0);e3(f=1)");
+        x.share(0, 0, 10);
+        x.ask(0, 0, 0, 0);
+        P.due("nobody is found: the fee", x.leave(0, 5), 5);
+        P.due("nobody is found: the end", x.leave(0, 6), 102);
+        x.agree(0, 0);
+        x.look(0, 0, 100, 0);
+        x.ask(0, 0, 0, 0);
+        P.due("one who is found today: the fee", x.leave(1, 5), 9);
+        P.due("one who is found today: the end", x.leave(1, 6), 103);
+        Shelves.law(x, 0, 100, 100, "f20;e30");
+        x.ask(0, 0, 0, 0);
+        P.due("a LAW of today alone: the fee", x.leave(2, 5), 20);
+        P.due("a LAW of today alone: the end", x.leave(2, 6), 130);
+        x.now(101);
+        x.ask(0, 0, 0, 0);
+        P.due("the DAY behind: the fee", x.leave(3, 5), 9);
+        P.due("the DAY behind: the end", x.leave(3, 6), 104);
+        Shelves.law(x, 0, 0, 100, "f40;e50");
+        Shelves.law(x, 0, 102, 99999, "f60;e70");
+        x.ask(0, 0, 0, 0);
+        P.due("LAWS of the DAYS around: the fee", x.leave(4, 5), 9);
+        P.due("LAWS of the DAYS around: the end", x.leave(4, 6), 104);
     }
 
     private static void many(OrphanShelf x, int n) {

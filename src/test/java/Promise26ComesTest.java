@@ -10,6 +10,7 @@ public final class Promise26ComesTest {
         endedByThen();
         whoHoldsAShareToday();
         partsThatAreNotYet();
+        partsThatAreToldToday();
         freeOnesDoNot();
         givenLaterDoNot();
         aHundredAtOnce();
@@ -134,6 +135,17 @@ public final class Promise26ComesTest {
         P.due("it holds none yet", x.comes(3), 0);
         P.due("the part holds it still", x.comes(2), 1);
         P.due("ended", x.leave(0, 6), 101);
+    }
+
+    private static void partsThatAreToldToday() {
+        OrphanShelf x = made("p0");
+        x.share(0, 2, 10);
+        x.ask(0, 0, 0, 0);
+        x.now(102);
+        x.merge(2, 3, 102);
+        P.due("the part holds none any more", x.comes(2), 0);
+        P.due("who holds it", x.comes(3), 1);
+        P.due("ended", x.leave(0, 6), 102);
     }
 
     private static void freeOnesDoNot() {

@@ -11,6 +11,7 @@ public final class Promise27PaidTest {
         free();
         nothingToPay();
         allSharesThatOneHoldsToday();
+        partsThatAreToldToday();
         asItWasKnownThen();
         onTheDayOnWhichItWasGiven();
         theMost();
@@ -127,6 +128,21 @@ public final class Promise27PaidTest {
         x.now(110);
         P.due("that DAY, both", x.paid(3, 0), 50);
         P.due("the part's no more", x.paid(2, 0), 0);
+    }
+
+    private static void partsThatAreToldToday() {
+        OrphanShelf x = made("p0;w100");
+        x.share(0, 2, 20);
+        x.share(0, 3, 30);
+        x.ask(0, 0, 0, 0);
+        x.uses(0, 100, 100, 1);
+        x.comes(2);
+        x.comes(3);
+        x.now(110);
+        P.due("not told yet", x.paid(3, 0), 30);
+        x.merge(2, 3, 110);
+        P.due("told today, both", x.paid(3, 0), 50);
+        P.due("told today, the part's no more", x.paid(2, 0), 0);
     }
 
     private static void asItWasKnownThen() {

@@ -12,6 +12,7 @@ public final class Promise28CheapestTest {
         ofTwo();
         surelyAndNever();
         whatIsLookedThrough();
+        asKnownNow();
         notForWhatItLiesIn();
         theLeastRow();
         theLowestEight();
@@ -100,6 +101,23 @@ public final class Promise28CheapestTest {
         x.look(0, 0, 21, NONE);
         x.look(0, 1, 21, NONE);
         cheapest(x, "all, today", 0);
+    }
+
+    private static void asKnownNow() {
+        OrphanShelf x = shelf("s0(f=0);s1(f=1);a0(f=0);a5(f=1)");
+        x.source(0, 5);
+        x.source(1, 7);
+        Shelves.persons(x, 1);
+        x.share(0, 0, 10);
+        x.now(20);
+        x.look(0, 1, 14, NONE);
+        cheapest(x, "nobody is found", 5000000, 0);
+        x.look(0, 3, 20, 0);
+        cheapest(x, "one who is found today", 7000000, 1);
+        x.look(0, 1, 15, NONE);
+        cheapest(x, "looked through, told today", 0);
+        x.now(21);
+        cheapest(x, "too old the DAY behind", 7000000, 1);
     }
 
     private static void notForWhatItLiesIn() {

@@ -10,6 +10,7 @@ public final class Promise29JudgeTest {
         noneAtAll();
         theLowestEight();
         whatIsLookedThrough();
+        today();
         emptyThen();
         itHasNotSoMany();
         noSuchWorkOrLand();
@@ -91,6 +92,22 @@ public final class Promise29JudgeTest {
         x.look(0, 2, 0, NONE);
         x.look(0, 9, 0, NONE);
         P.due("none is left", x.judge(0, 0, 0), 0);
+    }
+
+    private static void today() {
+        OrphanShelf x = Checks.made(Promise29JudgeTest::shelf);
+        Shelves.law(x, 0, "a10");
+        Shelves.law(x, 0, 31, 31, "s0");
+        x.now(30);
+        x.look(0, 5, 19, NONE);
+        P.due("11 DAYS ago", judged(x, 9, 2), -2);
+        x.look(0, 5, 20, NONE);
+        P.due("10 DAYS ago", judged(x, 9, 2), 11 * 1000000 + 3 * 990000);
+        P.due("with it", judged(x, 2, 5, 9), -2);
+        x.now(31);
+        Shelves.source(x, 0, 1, 0);
+        P.due("without what is too old and a LAW's of today", judged(x, 9, 2), -2);
+        P.due("with both", judged(x, 0, 5, 9, 2), 1000000 + 7 * 1000000 + 11 * 500000 + 3 * 495000);
     }
 
     private static void emptyThen() {

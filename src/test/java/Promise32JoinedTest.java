@@ -12,6 +12,7 @@ public final class Promise32JoinedTest {
         allWorks();
         noneSuch();
         noSuchOnes();
+        noSuchLands();
         oneLand();
         P.end();
     }
@@ -129,6 +130,23 @@ public final class Promise32JoinedTest {
             P.isNone("what " + what, Promise32JoinedTest::shelf, x -> x.joined(0, 3, 1, 0, what));
         }
         P.due("eight bits", Checks.made(Promise32JoinedTest::shelf).joined(0, 3, 8, 0, 0), 0);
+    }
+
+    /** Numbers that are those of a LAND in their lowest bits are none, too. */
+    private static void noSuchLands() {
+        Checks.Making all = x -> {
+            Shelves.works(x, 3);
+            for (int w = 0; w < 3; w++) {
+                for (int land = 0; land < 4; land++) {
+                    x.list(w, land);
+                }
+            }
+        };
+        for (int land : new int[] {-1, -29, -32, 4, 8, 32, 33, 35, 64, 256, 65536, FAR[0], FAR[0] + 3, FAR[1]}) {
+            P.isNone("LAND " + land + " and 1", all, x -> x.joined(land, 1, 8, 0, 0));
+            P.isNone("1 and LAND " + land, all, x -> x.joined(1, land, 8, 0, 0));
+        }
+        P.due("LANDS 0 and 1", Checks.made(all).joined(0, 1, 8, 0, 1), 1);
     }
 
     private static void oneLand() {

@@ -10,6 +10,7 @@ public final class Promise33AuditTest {
         drawnBySeeds();
         thoseThatAreNotFree();
         moreThanThereAre();
+        everyOneThatWasDrawn();
         fourHundredTimes();
         wrongOnes();
         foundByThatDay();
@@ -104,6 +105,18 @@ public final class Promise33AuditTest {
             x.ask(0, 0, 0, 0);
         }
         return x;
+    }
+
+    private static void everyOneThatWasDrawn() {
+        for (int n : new int[] {9, 10, 11, 20, 60}) {
+            OrphanShelf x = hundred();
+            int[] row = drawn(n, 77, 100, 400);
+            P.due(n + ": how many", x.audit(n, 77, 0), row.length);
+            for (int i = 0; i < row.length; i++) {
+                P.due(n + ": the one at " + i, x.audit(n, 77, 10 + i), row[i]);
+            }
+            P.due(n + ": no more", x.audit(n, 77, 10 + row.length), NONE);
+        }
     }
 
     private static void fourHundredTimes() {

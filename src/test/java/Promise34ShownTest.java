@@ -8,6 +8,7 @@ public final class Promise34ShownTest {
         freeSurely();
         enoughAndAgreed();
         today();
+        toldToday();
         noWorks();
         allWorks();
         noSuchLand();
@@ -69,6 +70,22 @@ public final class Promise34ShownTest {
             x.now(days[i]);
             P.due("on DAY " + days[i], x.shown(0), shown[i]);
         }
+    }
+
+    private static void toldToday() {
+        OrphanShelf x = new OrphanShelf();
+        Shelves.persons(x, 2);
+        Shelves.works(x, 2);
+        x.share(0, 0, 10);
+        x.share(1, 1, 10);
+        Shelves.law(x, 0, "t0;p0(k=0);s4(f=0)");
+        x.now(10);
+        P.due("both live, nothing is looked through", x.shown(0), 0);
+        x.died(0, 9, 9);
+        P.due("one death that is told today", x.shown(0), 1);
+        x.agree(1, 1);
+        x.comes(1);
+        P.due("one who came today and agreed", x.shown(0), 2);
     }
 
     private static void noWorks() {

@@ -1,9 +1,6 @@
-import java.io.ByteArrayOutputStream;
-import java.io.PrintStream;
+import java.io.IOException;
 import java.lang.reflect.Method;
 import java.lang.reflect.Modifier;
-import java.net.URL;
-import java.net.URLClassLoader;
 import java.nio.charset.StandardCharsets;
 import java.nio.file.Files;
 import java.nio.file.Path;
@@ -13,16 +10,14 @@ import java.util.List;
 import java.util.regex.Matcher;
 import java.util.regex.Pattern;
 import java.util.stream.Stream;
-import javax.tools.JavaCompiler;
-import javax.tools.ToolProvider;
 
-/** What README.md says holds as it stands there: its example, its table of calls, the files and tests that it names. */
+/** What README.md says holds as it stands there: its commands, its example, the calls, files and tests that it names. */
 public final class ReadmeTest {
     private static final Checks CHECKS = new Checks("readme");
 
     public static void main(String[] args) throws Exception {
         String readme = Files.readString(Path.of("README.md"));
-        theExample(readme);
+        commands(readme);
         everyCall(readme);
         namedFiles(readme);
         namedTests(readme);
@@ -38,45 +33,48 @@ public final class ReadmeTest {
         return blocks;
     }
 
-    private static void theExample(String readme) throws Exception {
+    /** Its two commands are run in a copy of the project, and the example prints what stands below it. */
+    private static void commands(String readme) throws IOException, InterruptedException {
         List<String> examples = blocks(readme, "java");
         List<String> printed = blocks(readme, "text");
+        List<String> commands = blocks(readme, "sh");
         CHECKS.due("examples", examples.size(), 1);
         CHECKS.due("what they print", printed.size(), 1);
-        if (examples.size() != 1 || printed.size() != 1) {
+        CHECKS.due("commands", commands.size(), 2);
+        if (examples.size() != 1 || printed.size() != 1 || commands.size() != 2) {
             return;
         }
         Path dir = Files.createTempDirectory("readme");
         try {
-            Path source = Files.writeString(dir.resolve("Example.java"), examples.get(0));
-            JavaCompiler compiler = ToolProvider.getSystemJavaCompiler();
-            int code = compiler.run(null, null, null, "-d", dir.toString(), "-Xlint:all", "-Werror",
-                    "src/main/java/OrphanShelf.java", source.toString());
-            CHECKS.due("compiling the example", code, 0);
-            if (code == 0) {
-                String got = whatExamplePrints(dir);
-                CHECKS.due("the example printed\n" + got, got.equals(printed.get(0) + "\n"), true);
-            }
+            copy(Path.of("src"), dir.resolve("src"));
+            Files.writeString(dir.resolve("Example.java"), examples.get(0));
+            String got = printedBy(commands.get(0), dir);
+            CHECKS.due("the example printed\n" + got, got.equals(printed.get(0) + "\n"), true);
+            String test = printedBy(commands.get(1), dir);
+            CHECKS.due("the test printed\n" + test, test.endsWith(", 0 wrong\n"), true);
         } finally {
             clear(dir);
         }
     }
 
-    private static String whatExamplePrints(Path dir) throws Exception {
-        ByteArrayOutputStream bytes = new ByteArrayOutputStream();
-        PrintStream before = System.out;
-        URL[] places = {dir.toUri().toURL()};
-        try (URLClassLoader loader = new URLClassLoader(places, null);
-                PrintStream caught = new PrintStream(bytes, true, StandardCharsets.UTF_8)) {
-            System.setOut(caught);
-            loader.loadClass("Example").getMethod("main", String[].class).invoke(null, (Object) new String[0]);
-        } finally {
-            System.setOut(before);
-        }
-        return bytes.toString(StandardCharsets.UTF_8).replace("\r\n", "\n");
+    private static String printedBy(String command, Path dir) throws IOException, InterruptedException {
+        Process process = new ProcessBuilder("sh", "-c", command).directory(dir.toFile())
+                .redirectError(ProcessBuilder.Redirect.INHERIT).start();
+        process.getOutputStream().close();
+        String got = new String(process.getInputStream().readAllBytes(), StandardCharsets.UTF_8);
+        CHECKS.due("exit code of " + command, process.waitFor(), 0);
+        return got;
     }
 
-    private static void clear(Path dir) throws Exception {
+    private static void copy(Path from, Path to) throws IOException {
+        try (Stream<Path> all = Files.walk(from)) {
+            for (Path one : all.toList()) {
+                Files.copy(one, to.resolve(from.relativize(one).toString()));
+            }
+        }
+    }
+
+    private static void clear(Path dir) throws IOException {
         try (Stream<Path> all = Files.walk(dir)) {
             for (Path one : all.sorted(Comparator.reverseOrder()).toList()) {
                 Files.delete(one);
