@@ -13,6 +13,7 @@ public final class Promise11NumberTest {
         noSuchOnes();
         others();
         striking();
+        strikingOnTheFirstAndTheLastDay();
         strikingWhatIsNotThere();
         whatIsStruckDoesNotStrike();
         lettersOfTheWork();
@@ -165,6 +166,21 @@ public final class Promise11NumberTest {
         P.due("in FORCE on that DAY, not on t", y.number(1, 0, 15, 5, 4), 1);
         P.due("nor on this t", y.number(1, 0, 20, 99999, 4), 1);
         P.due("the x is in FORCE on t alone", y.number(1, 0, 14, 15, 4), 2);
+    }
+
+    private static void strikingOnTheFirstAndTheLastDay() {
+        int[][] spans = {{10, 20, 0, 99999}, {0, 99999, 10, 20}, {10, 20, 10, 20}, {10, 10, 10, 10}, {0, 10, 10, 20}};
+        for (int[] span : spans) {
+            OrphanShelf x = made();
+            Shelves.law(x, 0, "f1");
+            Shelves.law(x, 0, span[0], span[1], "f2");
+            Shelves.law(x, 0, span[2], span[3], "x1.0");
+            for (int day : new int[] {0, 9, 10, 11, 19, 20, 21, 99999}) {
+                boolean stands = span[0] <= day && day <= span[1];
+                boolean strikes = span[2] <= day && day <= span[3];
+                P.due("on DAY " + day, x.number(1, 0, day, 5, 4), stands && !strikes ? 2 : 1);
+            }
+        }
     }
 
     private static void strikingWhatIsNotThere() {

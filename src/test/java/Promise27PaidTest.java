@@ -112,7 +112,8 @@ public final class Promise27PaidTest {
         P.due("no USES", y.paid(0, 0), 0);
     }
 
-    private static void allSharesThatOneHoldsToday() {
+    /** FIRMS 2 and 3, with 20 and 30 hundredths, came; 100 pence were earned. */
+    private static OrphanShelf twoFirmsCame() {
         OrphanShelf x = made("p0;w100");
         x.share(0, 2, 20);
         x.share(0, 3, 30);
@@ -120,6 +121,11 @@ public final class Promise27PaidTest {
         x.uses(0, 100, 100, 1);
         x.comes(2);
         x.comes(3);
+        return x;
+    }
+
+    private static void allSharesThatOneHoldsToday() {
+        OrphanShelf x = twoFirmsCame();
         P.due("its own", x.paid(2, 0), 20);
         x.merge(2, 3, 110);
         x.now(109);
@@ -131,13 +137,7 @@ public final class Promise27PaidTest {
     }
 
     private static void partsThatAreToldToday() {
-        OrphanShelf x = made("p0;w100");
-        x.share(0, 2, 20);
-        x.share(0, 3, 30);
-        x.ask(0, 0, 0, 0);
-        x.uses(0, 100, 100, 1);
-        x.comes(2);
-        x.comes(3);
+        OrphanShelf x = twoFirmsCame();
         x.now(110);
         P.due("not told yet", x.paid(3, 0), 30);
         x.merge(2, 3, 110);
