@@ -19,6 +19,7 @@ public final class Promise28CheapestTest {
         theMost();
         roundedDown();
         drawnCosts();
+        toldAnew();
         noSuchOnes();
         P.end();
     }
@@ -214,14 +215,21 @@ public final class Promise28CheapestTest {
     }
 
     private static void allOrders(int[] cost, int[] chance) {
-        OrphanShelf x = new OrphanShelf();
-        Shelves.works(x, 1);
+        allOrders(wanting(cost.length), cost, chance);
+    }
+
+    private static OrphanShelf wanting(int sources) {
         StringBuilder text = new StringBuilder("s0");
-        for (int s = 0; s < cost.length; s++) {
+        for (int s = 1; s < sources; s++) {
             text.append(";s").append(s);
+        }
+        return shelf(text.toString());
+    }
+
+    private static void allOrders(OrphanShelf x, int[] cost, int[] chance) {
+        for (int s = 0; s < cost.length; s++) {
             Shelves.source(x, s, cost[s], chance[s]);
         }
-        Shelves.law(x, 0, text.toString());
         int[] order = new int[cost.length];
         long[] best = {Long.MAX_VALUE};
         long expected = brute(cost, chance, new int[cost.length], 0, best, order);
@@ -271,6 +279,23 @@ public final class Promise28CheapestTest {
                 cost[s] = chance[s] * times;
             }
             allOrders(cost, chance);
+        }
+    }
+
+    /** On one shelf, again and again: what was reckoned for other COSTS and chances does not count any more. */
+    private static void toldAnew() {
+        Random random = new Random(4711);
+        for (int shelves = 0; shelves < 4; shelves++) {
+            OrphanShelf x = wanting(8);
+            int[] cost = new int[8];
+            int[] chance = new int[8];
+            for (int round = 0; round < 18; round++) {
+                for (int s = 0; s < 8; s++) {
+                    chance[s] = round % 3 == 0 ? 80 + random.nextInt(20) : 1 + random.nextInt(round % 3 == 1 ? 99 : 9);
+                    cost[s] = chance[s] * (1 + random.nextInt(2 * shelves + 1));
+                }
+                allOrders(x, cost, chance);
+            }
         }
     }
 
